@@ -59,6 +59,10 @@ public final class TwoHousesBehind {
         return refuse(trouble) - APART;
     }
 
+    private static boolean isCount(int k, int least, int most) {
+        return k >= least && k <= most;
+    }
+
     private static boolean isSet(int set) {
         return set >= 0 && set <= Street.ALL_WORDS;
     }
@@ -74,10 +78,6 @@ public final class TwoHousesBehind {
             return trouble;
         }
         return n > most || !street.hasBird() ? WRONG : 0;
-    }
-
-    private static boolean isCount(int k, int least, int most) {
-        return k >= least && k <= most;
     }
 
     private int troubleInThought(int house, int set, boolean counted) {
