@@ -808,11 +808,10 @@ public final class PromiseTest {
         x.set(0, 0, 9);
         C.due("judge(0, 1) to no HOUSE", x.judge(0, 1), 0);
         for (int none = -70; none <= 70; none++) {
-            x.set(0, 0, 1);
-            x.set(0, 1, none);
-            C.due("judge(0, 2) to " + none, x.judge(0, 2), none == 0 || none == 2 ? NONE : 1);
+            TwoHousesBehind y = ring();
+            Checks.row(y, 0, 1, none);
+            C.due("judge(0, 2) to " + none, y.judge(0, 2), none == 0 || none == 2 ? NONE : 1);
         }
-        x.set(0, 1, 2);
         x.set(0, 0, -1);
         C.due("judge(0, 1) to no HOUSE", x.judge(0, 1), 0);
         x.set(0, 0, 1);
