@@ -510,6 +510,34 @@ public final class BirdEdgesTest extends Edges {
         idle(late, x -> x.hears(0, 40, 2), 8);
     }
 
+    static void promise28_visitsAndWordsOfTheRouteCount() {
+        // a LATE one amid three houses: visited twice on the route, it says word 7 at the third time
+        Maker late = () -> {
+            TwoHousesBehind x = bare();
+            x.house(0, 1, 0);
+            x.house(6, 128, 2);
+            x.house(0, 2, 0);
+            x.house(2, 0, 0);
+            x.way(0, 1, 1);
+            x.way(0, 2, 1);
+            x.way(0, 3, 1);
+            x.put(0);
+            x.lag(1);
+            fill(x, 0, 0, 2, 0, 1, 0, 1, 0, 2, 0, 1, 0, 3, 0, 3, 0);
+            return x;
+        };
+        long[] due = {0, 2, 2, 2, 2, 2, 2, 2, 2, 130};
+        for (int n = 1; n <= due.length; n++) {
+            int first = n;
+            idle(late, x -> x.hears(0, first, 0), due[n - 1]);
+        }
+        // the ECHO says word 0, that it heard at its first visit, at its second
+        idle(late, x -> x.hears(0, 11, 3), 1);
+        idle(late, x -> x.other(0, 12, 1), 0);
+        idle(late, x -> x.other(0, 14, 1), 1);
+        idle(late, x -> x.houseOf(1, 4), 0);
+    }
+
     static void promise28_refusalsInTheirOrder() {
         order((x, s, n) -> x.hears(s, n, 0));
         refused(Edges::nowhere, x -> x.hears(4, -1, 3), -1);

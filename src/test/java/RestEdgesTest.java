@@ -290,6 +290,32 @@ public final class RestEdgesTest extends Edges {
         idle(Edges::bare, x -> x.trace(0), NONE);
     }
 
+    static void promise43_inTheOrderInWhichTheyBegan() {
+        // by kinds (houses of line() are of the first kind) the bodies of calls, hushes, opens
+        int[][][] bodies = {
+            {{10}, {11, 10}, {12, 11, 10, 10}},
+            {{20, 10}, {11, 20, 10}, {12, 11, 20, 10, 20, 10}},
+            {{10}, {30, 11, 10}, {12, 30, 11, 10, 10}},
+            {{10}, {40, 30, 11, 10}, {41, 12, 40, 30, 11, 10, 10}},
+            {{10}, {11, 10}, {50, 12, 11, 10, 10}},
+            {{10}, {11, 10}, {60, 50, 12, 11, 10, 10}},
+            {{70, 10}, {71, 11, 70, 10}, {12, 71, 11, 70, 10, 70, 10}}};
+        for (int kind = 0; kind < 7; kind++) {
+            for (int act = 0; act < 3; act++) {
+                TwoHousesBehind x = bare();
+                x.house(kind, 0, 9);
+                x.act(0, act, 3);
+                int[] due = bodies[kind][act];
+                due(x.status(7), due.length);
+                for (int i = 0; i < due.length; i++) {
+                    due(x.trace(i), due[i]);
+                }
+                due(x.trace(due.length), NONE);
+                due(x.trace(due.length - 1), due[due.length - 1]);
+            }
+        }
+    }
+
     static void promise43_ofTheLatestAct() {
         TwoHousesBehind x = rich();
         x.act(0, 0, 1);
@@ -376,6 +402,22 @@ public final class RestEdgesTest extends Edges {
         due(x.restore(), 7);
         dues(new long[] {x.holds(0), x.holds(1), x.holds(2), x.holds(3), x.holds(4), x.holds(5), x.holds(6), x.holds(7)},
             6, NONE, 102, 103, 2, 6, 0, NONE);
+    }
+
+    static void promise45_ofHousesThatAreGoneShelvesHoldNothing() {
+        TwoHousesBehind x = bare();
+        x.house(0, 0, 0);
+        x.image();
+        for (int house = 1; house < 8; house++) {
+            x.house(0, 0, 0);
+        }
+        for (int s = 0; s < 8; s++) {
+            x.show(s, s);
+        }
+        due(x.restore(), 1);
+        for (int s = 0; s < 8; s++) {
+            due(x.holds(s), s == 0 ? 0 : NONE);
+        }
     }
 
     static void promise45_allButShelvesRefusalsFaultAndTrace() {

@@ -228,6 +228,32 @@ public final class SearchEdgesTest extends Edges {
         idle(() -> line(3, 1), x -> x.round(7, 2, 6, 0), NONE);
     }
 
+    static void promise31_oneSearchLeavesNothingToTheNext() {
+        TwoHousesBehind x = line(4, 1);
+        x.row(0, 2, 2);
+        x.row(1, 2, 2);
+        x.set(1, 1, 99);
+        for (int times = 0; times < 2; times++) {
+            due(x.aim(2, 0, 2, 6, 0), 2);
+            due(x.aim(2, 2, 2, 6, 0), NONE);
+            due(x.round(8, 4, 6, 0), 6);
+            due(x.round(8, 4, 5, 0), NONE);
+            due(x.aim(2, 0, 0, 6, 1), 0);
+            due(x.round(8, 4, 5, 2), NONE);
+            due(x.fits(0, 1), 1);
+            due(x.from(0, 1, NONE), 2);
+            due(x.fits(1, 2), 0);
+            due(x.from(1, 2, NONE), 0);
+            due(x.reach(2, 2), 2);
+            due(x.odds(2, 2, 2), ALL * ALL / 2);
+            due(x.shuts(2, 2, 2), 1);
+            due(x.first(2, 2), 2);
+            due(x.between(0, 1), 0);
+            due(x.judge(0, 1), 0);
+            due(x.other(0, 0, 3), 0);
+        }
+    }
+
     // ---- promise 32: fits
 
     static void promise32_shelves0To7() {

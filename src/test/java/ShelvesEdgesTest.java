@@ -572,6 +572,22 @@ public final class ShelvesEdgesTest extends Edges {
         }
     }
 
+    static void promise8_justWords0And1() {
+        Maker gossips = () -> {
+            TwoHousesBehind x = bare();
+            x.house(3, 128, 0);
+            x.house(4, 255, 0);
+            x.house(2, 128, 0);
+            for (int s = 0; s < 3; s++) {
+                x.show(s, s);
+            }
+            return x;
+        };
+        idle(gossips, x -> x.says(0, 0), 131);
+        idle(gossips, x -> x.says(1, 0), 255);
+        idle(gossips, x -> x.says(2, 0), 128);
+    }
+
     static void promise8_aQuietOneItsSaid() {
         idle(ShelvesEdgesTest::shown, x -> x.says(1, 1), 3);
     }
