@@ -538,6 +538,26 @@ public final class BirdEdgesTest extends Edges {
         idle(late, x -> x.houseOf(1, 4), 0);
     }
 
+    /** House 0 is LATE, visited once by the put ahead: on the route it says word 7 at its second visit more. */
+    static void promise28_aLateHouse0() {
+        Maker late = () -> {
+            TwoHousesBehind x = bare();
+            x.house(6, 128, 2);
+            x.house(0, 1, 0);
+            x.way(0, 1, 1);
+            x.put(0);
+            x.put(1);
+            x.lag(1);
+            fill(x, 0, 0, 0, 1, 0, 1, 0, 1);
+            return x;
+        };
+        long[] due = {0, 0, 0, 128, 128, 128};
+        for (int n = 1; n <= due.length; n++) {
+            int first = n;
+            idle(late, x -> x.hears(0, first, 1), due[n - 1]);
+        }
+    }
+
     static void promise28_refusalsInTheirOrder() {
         order((x, s, n) -> x.hears(s, n, 0));
         refused(Edges::nowhere, x -> x.hears(4, -1, 3), -1);

@@ -149,6 +149,31 @@ public final class SearchEdgesTest extends Edges {
         takes(diamond(11, 9, 10), 9, 1, 3);
     }
 
+    static void promise30_ofTheSameMinutesMoreVisitsComeBehindThoughTheirHousesHaveGreaterNumbers() {
+        // from house 0 to 1, that hears word 0, at once or by 2 or 3, that say word 0 too
+        for (int direct = 9; direct <= 11; direct++) {
+            int minutes = direct;
+            Maker maker = () -> {
+                TwoHousesBehind x = bare();
+                for (int house = 0; house < 5; house++) {
+                    x.house(0, 1, 0);
+                }
+                x.way(0, 1, minutes);
+                x.way(0, 2, 5);
+                x.way(2, 1, 5);
+                x.way(0, 3, 5);
+                x.way(3, 1, 5);
+                x.lag(1);
+                x.put(0);
+                return x;
+            };
+            idle(maker, x -> x.aim(1, 4, 1, 6, 0), Math.min(10, direct));
+            idle(maker, x -> x.aim(1, 4, 1, 6, 1), direct <= 10 ? 1 : 2);
+            idle(maker, x -> x.aim(1, 4, 1, 6, 2), direct <= 10 ? 1 : 2);
+            idle(maker, x -> x.aim(1, 4, 1, 6, 3), direct <= 10 ? NONE : 1);
+        }
+    }
+
     // ---- promise 31: round
 
     static void promise31_aSetOfHousesThatThereAre() {
@@ -487,6 +512,25 @@ public final class SearchEdgesTest extends Edges {
         idle(() -> line(5, 1), x -> x.odds(2, 2, 1), 0);
         idle(() -> line(5, 1), x -> x.odds(2, 2, 2), ALL * half);
         idle(() -> line(5, 1), x -> x.odds(2, 2, 3), ALL * half * ALL);
+    }
+
+    static void promise34_fromWhereTheBirdIs() {
+        // from house 1 of a line of three it has two ways, from 0 and 2 one
+        Maker middle = () -> {
+            TwoHousesBehind x = line(3, 1);
+            x.put(1);
+            return x;
+        };
+        idle(middle, x -> x.odds(0, 2, 1), ALL / 2);
+        idle(middle, x -> x.odds(2, 2, 1), ALL / 2);
+        idle(middle, x -> x.odds(1, 4, 2), ALL / 2 * ALL);
+        Maker end = () -> {
+            TwoHousesBehind x = line(3, 1);
+            x.put(2);
+            return x;
+        };
+        idle(end, x -> x.odds(1, 4, 1), ALL);
+        idle(end, x -> x.odds(0, 2, 2), ALL * (ALL / 2));
     }
 
     static void promise34_ofAllOpenWaysAlike1To12() {

@@ -352,6 +352,16 @@ public final class ShelvesEdgesTest extends Edges {
         refused(ShelvesEdgesTest::rows, y -> y.copy(6, 7, 1, 0, 160), -5);
         refused(ShelvesEdgesTest::rows, y -> y.copy(6, 7, 0, 1, 160), -5);
         due(answered(ShelvesEdgesTest::rows, y -> y.copy(6, 7, 159, 0, 1), 1).element(7, 0), Long.MAX_VALUE);
+        Maker last = () -> {
+            TwoHousesBehind y = rows();
+            y.set(7, 0, 5);
+            y.set(7, 159, 6);
+            return y;
+        };
+        TwoHousesBehind z = answered(last, y -> y.copy(7, 6, 0, 0, 160), 1);
+        dues(new long[] {z.element(6, 0), z.element(6, 159)}, 5, 6);
+        due(answered(last, y -> y.copy(7, 6, 159, 0, 1), 1).element(6, 0), 6);
+        due(answered(last, y -> y.copy(7, 7, 0, 159, 1), 1).element(7, 159), 5);
         due(answered(ShelvesEdgesTest::rows, y -> y.copy(6, 7, 0, 159, 1), 1).element(7, 159), Long.MIN_VALUE);
     }
 
